@@ -11,7 +11,7 @@ import java.util.TreeMap;
 /** Random runs of calls on the program and on CraneModel, which must give the same answers. */
 public final class ModelTest {
     private static final int RUNS = 1500;
-    /** An object is used for at most 512 calls, of which half go to the digest. */
+    /** An object is used for at most 512 calls, and a digest may stand behind each of these. */
     private static final int CALLS = 256;
     private static final Map<String, Method> PROGRAM = methodsOf(CraneLimiter.class);
     private static final Map<String, Method> MODEL = methodsOf(CraneModel.class);
@@ -89,8 +89,10 @@ public final class ModelTest {
             String got = answer(PROGRAM.get(name), program, arguments);
             calls.add(name + Arrays.toString(arguments) + " = " + got);
             note(name, got, stateBefore);
-            long dueDigest = model.digest();
-            long gotDigest = program.digest();
+            // The digest is not asked each time, so that it can't set right what a call left wrong.
+            boolean asked = random.nextInt(3) == 0 || i == CALLS - 1;
+            long dueDigest = asked ? model.digest() : 0;
+            long gotDigest = asked ? program.digest() : 0;
             if (!due.equals(got) || dueDigest != gotDigest) {
                 calls.forEach(System.out::println);
                 System.out.println("due is " + due + ", digest " + gotDigest + ", due is " + dueDigest);

@@ -225,7 +225,10 @@ public final class PromiseTest {
             Check.due("row 0", c.capacity(1, 0, column), first[column]);
             Check.due("row 1", c.capacity(1, 1, column), second[column]);
             Check.due("row 3", c.capacity(1, 3, column), fourth[column]);
-            Check.due("another table", c.capacity(2, 0, column), 0);
+            for (int row = 0; row < 4; row++) {
+                Check.due("the table before", c.capacity(0, row, column), 0);
+                Check.due("the table behind", c.capacity(2, row, column), 0);
+            }
         }
         // 100000 at most in each column, so 600000 * (1.0 + 0.9 + 0.8 + 0.7).
         Check.due("fillTable(0, 1000000)", c.fillTable(0, 1000000), 2040000);
@@ -314,6 +317,21 @@ public final class PromiseTest {
         Check.due("removeZone(0)", c.removeZone(0), 0);
         Check.due("no zone", c.boom(9), 0);
         Check.noIndex("removeZone(0) of none", c, () -> c.removeZone(0));
+        for (int zone = 1; zone <= 6; zone++) {
+            c.addZone(0, 0, 10000, 1549 - (1 << zone));
+        }
+        Check.due("six zones", c.boom(9), 126);
+        int left = 126;
+        for (int removed : new int[] {6, 1, 3, 2, 4, 5}) {
+            // The zones before it that are still there tell its present number.
+            int index = 0;
+            for (int other = 1; other < removed; other++) {
+                index += (left >> other) & 1;
+            }
+            c.removeZone(index);
+            left -= 1 << removed;
+            Check.due("after the zone " + removed, c.boom(9), left);
+        }
         undoable("removeZone", x -> x.removeZone(0));
     }
 
@@ -400,6 +418,10 @@ public final class PromiseTest {
         Check.due("attach on the ground", c.attach(0), 8);
         c.run(1, 1);
         Check.noState("attach with the hook up", c, () -> c.attach(9));
+        CraneLimiter light = new CraneLimiter();
+        light.attach(1);
+        light.run(1, 4);
+        Check.due("the lightest load is a load", light.boom(6), 4);
         undoable("attach", x -> x.attach(5));
         undoable("attach with no change", x -> x.attach(0));
     }
@@ -509,7 +531,15 @@ public final class PromiseTest {
         Check.due("its height", c.boom(5), 50);
         Check.due("down to the ground", c.run(2, 4), 3);
         Check.due("on the ground", c.boom(5), 0);
-        // The tip comes down to 1464 and 20 more, and takes the hook along.
+        CraneLimiter low = strong();
+        low.setBoom(1020, 29, 0);
+        low.run(1, 6);
+        Check.due("a hook at 101", low.boom(5), 101);
+        low.run(2, 5);
+        Check.due("a hook at 1", low.boom(5), 1);
+        Check.due("hoist down to the ground", low.run(2, 1), 1);
+        Check.due("a hook on the ground", low.boom(5), 0);
+        // The tip comes down to 1224 and 250 more, and takes the hook along.
         CraneLimiter d = strong();
         d.run(1, 100);
         d.run(8, 10);
@@ -707,7 +737,6 @@ public final class PromiseTest {
         Check.due("slewing over a narrow zone", c.permitted(), 253);
         c.addZone(0, 0, 0, 10000);
         Check.due("slewing out of a zone", c.permitted(), 255 - 2 - 8 - 16);
-        c.bypass(1);
         CraneLimiter d = strong();
         d.addZone(15, 3585, 0, 0);
         d.bypass(9);
@@ -719,9 +748,6 @@ public final class PromiseTest {
     }
 
     private static void promise15Slewing() {
-        CraneLimiter c = new CraneLimiter();
-        c.fillTable(2, 100000);
-        c.setOutrigger(1, 1);
         // Table 1 counts from 451 to 2249; a slew motion looks 50 ahead.
         int[][] ahead = {{400, 253}, {401, 253 - 64}, {2300, 253}, {2299, 253 - 128}, {3599, 253}};
         for (int[] f : ahead) {
@@ -797,6 +823,7 @@ public final class PromiseTest {
 
     private static void promise17() {
         CraneLimiter c = new CraneLimiter();
+        cosines();
         // The cosines of 5 and 85 degrees lie halfway between their neighbours.
         int[][] positions = {{1000, 0, 850, 250}, {6000, 0, 5850, 250}, {6000, 850, 370, 6204}, {1000, 850, 100, 1242},
             {2000, 900 - 50, 100, 2234}, {3333, 123, 3333 * 9745 / 10000 - 150, 3333 * 2123 / 10000 + 250}};
@@ -817,6 +844,7 @@ public final class PromiseTest {
             Check.due("boom(" + what + ")", d.boom(what), values[what]);
         }
         // 2700 kg at 750 cm, the deflection of 8 and the moment of 1200 * 375.
+        deflections();
         d.bypass(0);
         d.run(2, 4);
         Check.due("the pressure with half of the load", d.boom(8), (2700 * (600 + 8 + 150) + 1200 * 375) / 500);
@@ -824,6 +852,44 @@ public final class PromiseTest {
             Check.noArgument("boom", c, () -> c.boom(wrong));
         }
         notUndoable("boom", x -> x.boom(8));
+    }
+
+    private static void cosines() {
+        int[] cosines = {10000, 9848, 9397, 8660, 7660, 6428, 5000, 3420, 1736};
+        CraneLimiter c = new CraneLimiter();
+        for (int length = 4000; length <= 6000; length += 81) {
+            for (int k = 0; k <= 8; k++) {
+                c.setBoom(length, 100 * k, 0);
+                Check.due("R0 at " + 100 * k, c.boom(3), length * cosines[k] / 10000 - 150);
+                if (k >= 1) {
+                    Check.due("H at " + 100 * k, c.boom(4), length * cosines[9 - k] / 10000 + 250);
+                }
+            }
+        }
+        // Between 80 and 90 degrees the fall of 1736 is rounded down, so the cosine is rounded up.
+        c.setBoom(6000, 801, 0);
+        Check.due("R0 at 801", c.boom(3), 6000 * (1736 - 17) / 10000 - 150);
+        c.setBoom(6000, 2, 0);
+        Check.due("H at 2", c.boom(4), 6000 * (1736 - 1701) / 10000 + 250);
+    }
+
+    /** The pressure and the measured radius where the deflection is just a whole number, or just below one. */
+    private static void deflections() {
+        CraneLimiter c = strong();
+        c.setTare(1000);
+        // 1000 * 1500 * 1500 is 3 * 750000000.
+        Check.due("a deflection of 3", c.boom(8), (1000 * (600 + 3 + 150) + 1200 * 375) / 500);
+        c.setTare(999);
+        Check.due("a deflection of 2", c.boom(8), (999 * (600 + 2 + 150) + 1200 * 375) / 500);
+        CraneLimiter odd = new CraneLimiter();
+        odd.setBoom(1500, 601, 0);
+        Check.due("an odd radius", odd.boom(8), (200 * (597 + 150) + 1200 * 373) / 500);
+        CraneLimiter d = strong();
+        d.setBoom(1097, 600, 0);
+        d.attach(38017 - 200);
+        d.bypass(9);
+        d.run(1, 4);
+        Check.due("a deflection just below 61", d.boom(8), (38017 * (398 + 60 + 150) + 877 * 274) / 500);
     }
 
     private static void promise18() {
@@ -868,6 +934,25 @@ public final class PromiseTest {
         for (int what = 0; what < 3; what++) {
             Check.due("far off, limiter(" + what + ")", steep.limiter(what), model.limiter(what));
         }
+        CraneLimiter hook = new CraneLimiter();
+        hook.setTare(5);
+        Check.due("measured less than the tare", hook.limiter(0), 4);
+        Check.due("no net load below 0", hook.limiter(2), 0);
+        CraneLimiter light = strong();
+        light.setTare(0);
+        light.attach(9);
+        light.run(1, 4);
+        level(light, 1);
+        int net = light.limiter(2);
+        Check.holds("a small net load", net >= 1 && net <= 9);
+        Check.due("a rated capacity of 1", light.limiter(6), 1000 * net);
+        CraneLimiter lightest = strong();
+        lightest.setTare(1);
+        lightest.attach(1);
+        lightest.run(1, 4);
+        level(lightest, 1000);
+        Check.due("a net load of 1", lightest.limiter(2), 1);
+        Check.due("its utilization", lightest.limiter(6), 1);
         for (int wrong : new int[] {-1, 8, BIG, SMALL}) {
             Check.noArgument("limiter", c, () -> c.limiter(wrong));
         }
@@ -883,7 +968,7 @@ public final class PromiseTest {
         // R0 is 850 at the length of 1000: between 600 and 1000, 150 from the latter.
         Check.due("rated(1000, 0, 0)", c.rated(1000, 0, 0), (13333 * 150 + 8000 * 250) / 400);
         Check.due("a radius below 300 counts as 300", c.rated(1000, 850, 0), 26666);
-        Check.due("a radius of 3000", c.rated(3150, 0, 0), (2132 * 350 + 2399 * 0 + valueAt(2666, 1150)) / 1500);
+        Check.due("a radius of 3000", c.rated(3150, 0, 0), (2399 * 350 + 2132 * 1150) / 1500);
         Check.due("a radius of 3001", c.rated(3151, 0, 0), 0);
         Check.due("the longest boom", c.rated(6000, 700, 0), ratedAtTheLongest());
         int[][] wrong = {{999, 0, 0}, {6001, 0, 0}, {1000, -1, 0}, {1000, 851, 0}, {1000, 0, -1}, {1000, 0, 3600},
@@ -892,11 +977,21 @@ public final class PromiseTest {
             Check.noArgument("rated", c, () -> c.rated(p[0], p[1], p[2]));
         }
         notUndoable("rated", x -> x.rated(1000, 0, 0));
+        rowsOfLengths();
     }
 
-    /** The part of row 2 in the capacity for the length 3150 and the radius 3000, less that of row 1 for 350. */
-    private static int valueAt(int first, int beyond) {
-        return first * 8 / 10 * beyond - 2132 * 350 + 2399 * 350;
+    private static void rowsOfLengths() {
+        // At 85 degrees the radius of a boom up to 3500 counts as 300, so the rows alone matter.
+        int[][] due = {{0, 1000, 10000}, {0, 1001, 9990}, {0, 2000, 0}, {1, 1000, 0}, {1, 1999, 9990},
+            {1, 2000, 10000}, {1, 2001, 9993}, {1, 3500, 0}, {2, 2000, 0}, {2, 3499, 9993}, {2, 3500, 10000},
+            {2, 3501, 9996}, {2, 6000, 0}, {3, 3500, 0}, {3, 3501, 4}, {3, 5999, 9996}, {3, 6000, 10000}};
+        for (int[] f : due) {
+            CraneLimiter c = new CraneLimiter();
+            for (int column = 0; column < 6; column++) {
+                c.setCapacity(2, f[0], column, 10000);
+            }
+            Check.due("row " + f[0] + " at the length " + f[1], c.rated(f[1], 850, 0), f[2]);
+        }
     }
 
     /** At 70 degrees R0 is 1902, between 1500 and 2200; the row of 6000 alone counts. */
@@ -918,6 +1013,12 @@ public final class PromiseTest {
         Check.due("maxRadius(3001)", c.maxRadius(3001), CraneLimiter.NONE);
         Check.due("maxRadius(2990)", c.maxRadius(2990), 301);
         Check.due("maxRadius(1500)", c.maxRadius(1500), 450);
+        for (int column = 0; column < 6; column++) {
+            CraneLimiter d = new CraneLimiter();
+            d.setCapacity(2, 0, column, 5000);
+            d.setCapacity(2, 1, column, 5000);
+            Check.due("a peak at column " + column, d.maxRadius(5000), RADII[column]);
+        }
         // A peak at 2200, behind a dip at 1500.
         c.setCapacity(2, 0, 4, 7000);
         c.setCapacity(2, 1, 4, 7000);
@@ -955,6 +1056,8 @@ public final class PromiseTest {
         Check.due("the last of a way round", c.worstSlew(3199, 3148, 1), 1399);
         Check.due("steps of 50", c.worstSlew(3199, 3149, 1), 1399);
         Check.due("modulo 3600", c.worstSlew(3150, 1400, 1), 1400);
+        c.predicted(3);
+        Check.due("what was predicted does not count", c.worstSlew(3500, 100, 0), 284);
         CraneLimiter free = new CraneLimiter();
         Check.due("without a load", free.worstSlew(7, 3000, 0), 0);
         Check.due("without a load, the first", free.worstSlew(7, 3000, 1), 7);
@@ -993,9 +1096,9 @@ public final class PromiseTest {
         for (int wrong : new int[] {-1, 3, BIG, SMALL}) {
             Check.noArgument("event", c, () -> c.event(0, wrong));
         }
-        notUndoable("event", x -> {
+        undoable("the run behind an event", x -> {
             x.run(2, 1);
-            x.undo();
+            x.event(0, 0);
         });
     }
 
@@ -1103,6 +1206,18 @@ public final class PromiseTest {
             byRun.run(1 << motion, 12);
             Check.due("motion of " + orders[motion], byScript.digest(), byRun.digest());
         }
+        CraneLimiter waiting = strong();
+        CraneLimiter idle = strong();
+        waiting.setBoom(6000, 850, 0);
+        idle.setBoom(6000, 850, 0);
+        text(waiting, "w7;");
+        text(idle, "w7;");
+        waiting.runScript();
+        idle.run(0, 7);
+        waiting.run(2, 1);
+        idle.run(2, 1);
+        Check.due("w is ticks without motions", waiting.digest(), idle.digest());
+        Check.due("w blocks nothing", waiting.events(), 1);
         CraneLimiter c = strong();
         text(c, " h + 4 ;b-1;  w 99 ; e+01;s-9 ; ");
         Check.due("a script with blanks", c.runScript(), 4 + 1 + 99 + 1 + 9);
@@ -1183,6 +1298,13 @@ public final class PromiseTest {
         fault("w1;\t", 3);
         fault("h,1;", 1);
         fault("\0", 0);
+        CraneLimiter c = new CraneLimiter();
+        text(c, "h+");
+        Check.due("a script that ends too early", c.runScript(), -12);
+        text(c, "w3;w4;");
+        Check.due("and one without a fault behind it", c.runScript(), 7);
+        text(c, "w3;");
+        Check.due("and one with fewer orders", c.runScript(), 3);
     }
 
     private static void promise30() {
@@ -1215,6 +1337,41 @@ public final class PromiseTest {
         Check.due("everything is back", c.digest(), before);
         c.run(2, 4);
         Check.due("the lift in progress too", c.lifts(0), 1);
+        undoZonesStatesAndLog();
+    }
+
+    private static void undoZonesStatesAndLog() {
+        CraneLimiter c = lifting();
+        c.addZone(0, 0, 599, 10000);
+        c.addZone(0, 0, 590, 10000);
+        long before = c.digest();
+        c.removeZone(0);
+        c.undo();
+        c.setTare(200);
+        Check.due("undo of removeZone", c.digest(), before);
+        c.bypass(9);
+        before = c.digest();
+        c.run(0, 1);
+        Check.due("another state", c.limiter(7), CraneLimiter.BYPASSED);
+        c.undo();
+        c.setTare(200);
+        Check.due("undo of a change of the state", c.digest(), before);
+        CraneLimiter d = strong();
+        for (int i = 0; i < 32; i++) {
+            d.run(2, 1);
+            d.run(0, 1);
+        }
+        d.setBoom(1000, 0, 0);
+        d.bypass(3);
+        before = d.digest();
+        text(d, "b-1;w1;s+2;e-1;w1;b-2;w1;e-1;h-1;");
+        d.runScript();
+        Check.due("the last one of them", d.event(29, 2), 1);
+        Check.due("the last but one", d.event(28, 2), 5);
+        d.clearText();
+        d.undo();
+        d.setTare(200);
+        Check.due("undo of events in a full log", d.digest(), before);
     }
 
     private static long hash(long h, int... values) {
@@ -1264,7 +1421,7 @@ public final class PromiseTest {
         Check.due("digest of a new object", c.digest(),
                 digestOf(c, new int[] {0, 0, 200}, new int[] {2, 2, 2, 2}, 0, new int[0]));
         c.fillTable(0, 1000);
-        c.fillTable(1, 2000);
+        c.fillTable(1, 20000);
         c.fillTable(2, 4100);
         c.setCapacity(3, 1, 2, 12345);
         c.setOutrigger(1, 0);
@@ -1276,6 +1433,7 @@ public final class PromiseTest {
         c.attach(5000);
         text(c, "h+4;h-4;h+9;s-2;");
         c.runScript();
+        Check.due("a lift before the digest", c.lifts(1), 1);
         c.bypass(20);
         int[] zones = {10, 20, 30, 40, 3500, 60, 700, 1600};
         Check.due("digest", c.digest(),
