@@ -47,46 +47,6 @@ public final class PromiseTest {
 
     // Helpers
 
-    /** A crane with full tables, so that nothing stands in the way of its motions. */
-    private static CraneLimiter strong() {
-        CraneLimiter c = new CraneLimiter();
-        for (int table = 0; table < 4; table++) {
-            c.fillTable(table, 1000000);
-        }
-        return c;
-    }
-
-    private static void text(CraneLimiter c, String signs) {
-        c.clearText();
-        for (int i = 0; i < signs.length(); i++) {
-            c.type(signs.charAt(i));
-        }
-    }
-
-    /** Makes the rated capacity of the first position, and of those near it, one and the same. */
-    private static void level(CraneLimiter c, int mass) {
-        for (int row = 0; row < 2; row++) {
-            for (int column = 0; column < 3; column++) {
-                c.setCapacity(2, row, column, mass);
-            }
-        }
-    }
-
-    /** A tick in which the present utilization comes to that of 5000 kg and a capacity; answers the state. */
-    private static int tickAt(CraneLimiter c, int mass) {
-        level(c, mass);
-        c.run(0, 1);
-        return c.limiter(7);
-    }
-
-    /** A crane with 5000 kg on the rope at the first position. */
-    private static CraneLimiter lifting() {
-        CraneLimiter c = strong();
-        c.attach(5000);
-        c.run(1, 4);
-        return c;
-    }
-
     private static void undoable(String what, Consumer<CraneLimiter> call) {
         CraneLimiter c = new CraneLimiter();
         c.addZone(0, 100, 9000, 9000);
@@ -350,7 +310,7 @@ public final class PromiseTest {
         Check.due("violation of a steep boom", c.setBoom(6000, 850, 0), 6000 * 9924 / 10000 + 250 - 300);
         int[][] wrong = {{999, 0, 0}, {6001, 0, 0}, {1000, -1, 0}, {1000, 851, 0}, {1000, 0, -1}, {1000, 0, 3600},
             {SMALL, 0, 0}, {1000, BIG, 0}, {1000, 0, BIG}};
-        CraneLimiter tight = lifting();
+        CraneLimiter tight = Cranes.lifting();
         for (int[] p : wrong) {
             Check.noArgument("setBoom", c, () -> c.setBoom(p[0], p[1], p[2]));
             Check.noArgument("setBoom under load, both wrong", tight, () -> tight.setBoom(p[0], p[1], p[2]));
@@ -393,7 +353,7 @@ public final class PromiseTest {
     private static void windFactor() {
         int[][] factors = {{0, 1000}, {100, 1000}, {101, 998}, {350, 500}, {599, 2}, {600, 0}, {601, 0}, {1000, 0}};
         for (int[] f : factors) {
-            CraneLimiter c = strong();
+            CraneLimiter c = Cranes.strong();
             c.wind(f[0]);
             Check.due("rated with a wind of " + f[0], c.rated(1000, 0, 0), 100 * f[1]);
         }
@@ -464,7 +424,7 @@ public final class PromiseTest {
     }
 
     private static void promise14() {
-        CraneLimiter c = strong();
+        CraneLimiter c = Cranes.strong();
         Check.due("run(1, 100)", c.run(1, 100), 68);
         Check.due("the hook is at its limit", c.boom(5), 1349);
         Check.due("time", c.boom(10), 100);
@@ -497,7 +457,7 @@ public final class PromiseTest {
     }
 
     private static void slowMotions() {
-        CraneLimiter c = strong();
+        CraneLimiter c = Cranes.strong();
         c.bypass(1000);
         c.run(0, 1);
         c.run(1 + 4 + 16 + 64, 1);
@@ -516,7 +476,7 @@ public final class PromiseTest {
     }
 
     private static void motionsAtTheirEnds() {
-        CraneLimiter c = strong();
+        CraneLimiter c = Cranes.strong();
         c.setBoom(5995, 847, 0);
         Check.due("to the longest boom", c.run(16, 2), 1);
         Check.due("the longest boom", c.boom(0), 6000);
@@ -531,7 +491,7 @@ public final class PromiseTest {
         Check.due("its height", c.boom(5), 50);
         Check.due("down to the ground", c.run(2, 4), 3);
         Check.due("on the ground", c.boom(5), 0);
-        CraneLimiter low = strong();
+        CraneLimiter low = Cranes.strong();
         low.setBoom(1020, 29, 0);
         low.run(1, 6);
         Check.due("a hook at 101", low.boom(5), 101);
@@ -540,7 +500,7 @@ public final class PromiseTest {
         Check.due("hoist down to the ground", low.run(2, 1), 1);
         Check.due("a hook on the ground", low.boom(5), 0);
         // The tip comes down to 1224 and 250 more, and takes the hook along.
-        CraneLimiter d = strong();
+        CraneLimiter d = Cranes.strong();
         d.run(1, 100);
         d.run(8, 10);
         Check.due("the tip comes down", d.boom(4), 1500 * (7660 + (8660 - 7660) / 2) / 10000 + 250);
@@ -550,14 +510,14 @@ public final class PromiseTest {
     }
 
     private static void ascendingOrder() {
-        CraneLimiter c = strong();
+        CraneLimiter c = Cranes.strong();
         c.run(1, 68);
         Check.due("hoist up comes before boom up", c.run(1 + 4, 1), 0);
         Check.due("the hook stayed", c.boom(5), 1349);
         Check.due("the boom went up", c.boom(1), 605);
         Check.due("after boom up there is room", c.run(1, 1), 1);
         // The boom may come up to the height of 1560 only: boom up uses it, extend finds none left.
-        CraneLimiter d = strong();
+        CraneLimiter d = Cranes.strong();
         d.addZone(0, 0, 10000, 1560);
         int both = d.run(4 + 16, 1);
         Check.due("boom up leaves no room for extend", both, 0);
@@ -572,44 +532,44 @@ public final class PromiseTest {
         int[] normal = {u849, u850, u899};
         int[] warning = {u900, u949, u950, u999};
         for (int mass : normal) {
-            Check.due("NORMAL stays at " + mass, tickAt(lifting(), mass), CraneLimiter.NORMAL);
+            Check.due("NORMAL stays at " + mass, Cranes.tickAt(Cranes.lifting(), mass), CraneLimiter.NORMAL);
         }
         for (int mass : warning) {
-            Check.due("WARNING comes at " + mass, tickAt(lifting(), mass), CraneLimiter.WARNING);
+            Check.due("WARNING comes at " + mass, Cranes.tickAt(Cranes.lifting(), mass), CraneLimiter.WARNING);
         }
-        Check.due("CUTOUT comes at 1000", tickAt(lifting(), u1000), CraneLimiter.CUTOUT);
+        Check.due("CUTOUT comes at 1000", Cranes.tickAt(Cranes.lifting(), u1000), CraneLimiter.CUTOUT);
         int[][] fromWarning = {{u849, 0}, {u850, 1}, {u899, 1}, {u950, 1}, {u999, 1}, {u1000, 2}};
         for (int[] f : fromWarning) {
-            CraneLimiter c = lifting();
-            tickAt(c, u900);
-            Check.due("from WARNING at " + f[0], tickAt(c, f[0]), f[1]);
+            CraneLimiter c = Cranes.lifting();
+            Cranes.tickAt(c, u900);
+            Check.due("from WARNING at " + f[0], Cranes.tickAt(c, f[0]), f[1]);
         }
         int[][] fromCutout = {{u849, 0}, {u850, 1}, {u900, 1}, {u949, 1}, {u950, 2}, {u999, 2}, {u1000, 2}};
         for (int[] f : fromCutout) {
-            CraneLimiter c = lifting();
-            tickAt(c, u1000);
-            Check.due("from CUTOUT at " + f[0], tickAt(c, f[0]), f[1]);
+            CraneLimiter c = Cranes.lifting();
+            Cranes.tickAt(c, u1000);
+            Check.due("from CUTOUT at " + f[0], Cranes.tickAt(c, f[0]), f[1]);
         }
         int[][] fromBypassed = {{u849, 0}, {u850, 0}, {u899, 0}, {u900, 1}, {u950, 1}, {u999, 1}, {u1000, 2}};
         for (int[] f : fromBypassed) {
-            CraneLimiter c = lifting();
-            tickAt(c, u1000);
+            CraneLimiter c = Cranes.lifting();
+            Cranes.tickAt(c, u1000);
             c.bypass(2);
-            Check.due("BYPASSED at 1000", tickAt(c, u1000), CraneLimiter.BYPASSED);
-            Check.due("from BYPASSED at " + f[0], tickAt(c, f[0]), f[1]);
+            Check.due("BYPASSED at 1000", Cranes.tickAt(c, u1000), CraneLimiter.BYPASSED);
+            Check.due("from BYPASSED at " + f[0], Cranes.tickAt(c, f[0]), f[1]);
         }
         stateEvents(u900, u1000);
     }
 
     private static void stateEvents(int u900, int u1000) {
-        CraneLimiter c = lifting();
-        tickAt(c, u900);
-        tickAt(c, u900);
-        tickAt(c, u1000);
-        tickAt(c, u1000);
+        CraneLimiter c = Cranes.lifting();
+        Cranes.tickAt(c, u900);
+        Cranes.tickAt(c, u900);
+        Cranes.tickAt(c, u1000);
+        Cranes.tickAt(c, u1000);
         c.bypass(2);
-        tickAt(c, u1000);
-        tickAt(c, u1000 / 2);
+        Cranes.tickAt(c, u1000);
+        Cranes.tickAt(c, u1000 / 2);
         Check.due("events of states", c.events(), 6);
         event("states", c, 0, 5, CraneLimiter.STATE, CraneLimiter.WARNING);
         event("states", c, 1, 7, CraneLimiter.STATE, CraneLimiter.CUTOUT);
@@ -620,7 +580,7 @@ public final class PromiseTest {
     }
 
     private static void promise14Lifts() {
-        CraneLimiter c = strong();
+        CraneLimiter c = Cranes.strong();
         c.attach(5000);
         c.run(1, 3);
         c.run(2, 3);
@@ -636,18 +596,18 @@ public final class PromiseTest {
         // A utilization of 249 and 250, which lie in the classes 1 and 2, and one beyond the last class.
         int[][] classes = {{20080, 1}, {20000, 2}, {5003, 7}, {1000, 7}};
         for (int[] f : classes) {
-            CraneLimiter d = strong();
+            CraneLimiter d = Cranes.strong();
             d.attach(5000);
-            level(d, f[0]);
+            Cranes.level(d, f[0]);
             // The bypass keeps the cut-out from stopping the lift.
             d.bypass(6);
             d.run(1, 4);
-            level(d, 100000);
+            Cranes.level(d, 100000);
             d.run(2, 4);
             Check.due("lift of class " + f[1] + " with " + f[0], d.lifts(f[1]), 1);
         }
-        CraneLimiter d = lifting();
-        level(d, 5003);
+        CraneLimiter d = Cranes.lifting();
+        Cranes.level(d, 5003);
         d.run(2, 4);
         // With a tension of 3 the net load is 3750, so 749 of 1000.
         Check.due("the utilization before the tick does not count", d.lifts(5), 1);
@@ -657,7 +617,7 @@ public final class PromiseTest {
     }
 
     private static void promise14Log() {
-        CraneLimiter c = strong();
+        CraneLimiter c = Cranes.strong();
         Check.due("hoist down on the ground", c.run(2, 3), 0);
         Check.due("a motion that stays blocked is logged once", c.events(), 1);
         event("blocked", c, 0, 1, CraneLimiter.BLOCKED, 1);
@@ -683,7 +643,7 @@ public final class PromiseTest {
     }
 
     private static void promise15() {
-        CraneLimiter c = strong();
+        CraneLimiter c = Cranes.strong();
         Check.due("permitted on the ground", c.permitted(), 253);
         c.attach(5000);
         c.run(1, 1);
@@ -703,20 +663,20 @@ public final class PromiseTest {
         Check.due("the hook is not at its limit", c.permitted(), 255 - 8 - 32);
         c.run(1, 1);
         Check.due("the hook is at its limit", c.permitted(), 255 - 1 - 8 - 32);
-        CraneLimiter d = lifting();
-        tickAt(d, 5555);
+        CraneLimiter d = Cranes.lifting();
+        Cranes.tickAt(d, 5555);
         Check.due("permitted in WARNING", d.permitted(), 255);
-        tickAt(d, 5000);
+        Cranes.tickAt(d, 5000);
         Check.due("permitted in CUTOUT", d.permitted(), 255 - 1 - 8 - 16);
         d.bypass(10);
-        tickAt(d, 5000);
+        Cranes.tickAt(d, 5000);
         Check.due("permitted in BYPASSED", d.permitted(), 255);
         zonesForbid();
         notUndoable("permitted", x -> x.permitted());
     }
 
     private static void zonesForbid() {
-        CraneLimiter c = strong();
+        CraneLimiter c = Cranes.strong();
         c.addZone(0, 0, 600, 10000);
         Check.due("no further out", c.permitted(), 255 - 2 - 8 - 16);
         c.removeZone(0);
@@ -737,7 +697,7 @@ public final class PromiseTest {
         Check.due("slewing over a narrow zone", c.permitted(), 253);
         c.addZone(0, 0, 0, 10000);
         Check.due("slewing out of a zone", c.permitted(), 255 - 2 - 8 - 16);
-        CraneLimiter d = strong();
+        CraneLimiter d = Cranes.strong();
         d.addZone(15, 3585, 0, 0);
         d.bypass(9);
         d.run(0, 1);
@@ -776,9 +736,9 @@ public final class PromiseTest {
             d.setCapacity(1, 1, column, 5000);
         }
         Check.due("1000 ahead", d.permitted(), 255 - 64);
-        level(d, 5000);
+        Cranes.level(d, 5000);
         Check.due("1000 ahead and here", d.permitted(), 255);
-        level(d, 5003);
+        Cranes.level(d, 5003);
         Check.due("1000 ahead and 999 here", d.permitted(), 255 - 64);
         d.bypass(9);
         d.run(0, 1);
@@ -808,12 +768,12 @@ public final class PromiseTest {
         }
         Check.holds("boom down is worse", c.predicted(3) > c.predicted(2));
         Check.holds("a slack rope is better", c.predicted(1) < c.predicted(2));
-        CraneLimiter d = lifting();
-        tickAt(d, 5000);
+        CraneLimiter d = Cranes.lifting();
+        Cranes.tickAt(d, 5000);
         int down = d.predicted(3);
         d.bypass(9);
         Check.due("also what is not permitted, at the same slow speed", down, d.predicted(3));
-        Check.due("predicted(0) at the top", strong().predicted(0), 0);
+        Check.due("predicted(0) at the top", Cranes.strong().predicted(0), 0);
         Check.due("no load", new CraneLimiter().predicted(1), 0);
         for (int wrong : new int[] {-1, 8, BIG, SMALL}) {
             Check.noArgument("predicted", c, () -> c.predicted(wrong));
@@ -835,7 +795,7 @@ public final class PromiseTest {
             Check.due("R0 of " + p[0] + ", " + p[1], c.boom(3), p[2]);
             Check.due("H of " + p[0] + ", " + p[1], c.boom(4), p[3]);
         }
-        CraneLimiter d = lifting();
+        CraneLimiter d = Cranes.lifting();
         d.run(1, 2);
         d.addZone(0, 0, 590, 1500);
         d.bypass(55);
@@ -875,7 +835,7 @@ public final class PromiseTest {
 
     /** The pressure and the measured radius where the deflection is just a whole number, or just below one. */
     private static void deflections() {
-        CraneLimiter c = strong();
+        CraneLimiter c = Cranes.strong();
         c.setTare(1000);
         // 1000 * 1500 * 1500 is 3 * 750000000.
         Check.due("a deflection of 3", c.boom(8), (1000 * (600 + 3 + 150) + 1200 * 375) / 500);
@@ -884,7 +844,7 @@ public final class PromiseTest {
         CraneLimiter odd = new CraneLimiter();
         odd.setBoom(1500, 601, 0);
         Check.due("an odd radius", odd.boom(8), (200 * (597 + 150) + 1200 * 373) / 500);
-        CraneLimiter d = strong();
+        CraneLimiter d = Cranes.strong();
         d.setBoom(1097, 600, 0);
         d.attach(38017 - 200);
         d.bypass(9);
@@ -919,7 +879,7 @@ public final class PromiseTest {
         Check.due("nothing to measure", tare.limiter(0), 0);
         Check.due("no net load of nothing", tare.limiter(2), 0);
         // The deflection is so great that the measuring does not come to an end of its own.
-        CraneLimiter steep = strong();
+        CraneLimiter steep = Cranes.strong();
         steep.setBoom(6000, 850, 0);
         steep.attach(100000);
         steep.bypass(9);
@@ -938,19 +898,19 @@ public final class PromiseTest {
         hook.setTare(5);
         Check.due("measured less than the tare", hook.limiter(0), 4);
         Check.due("no net load below 0", hook.limiter(2), 0);
-        CraneLimiter light = strong();
+        CraneLimiter light = Cranes.strong();
         light.setTare(0);
         light.attach(9);
         light.run(1, 4);
-        level(light, 1);
+        Cranes.level(light, 1);
         int net = light.limiter(2);
         Check.holds("a small net load", net >= 1 && net <= 9);
         Check.due("a rated capacity of 1", light.limiter(6), 1000 * net);
-        CraneLimiter lightest = strong();
+        CraneLimiter lightest = Cranes.strong();
         lightest.setTare(1);
         lightest.attach(1);
         lightest.run(1, 4);
-        level(lightest, 1000);
+        Cranes.level(lightest, 1000);
         Check.due("a net load of 1", lightest.limiter(2), 1);
         Check.due("its utilization", lightest.limiter(6), 1);
         for (int wrong : new int[] {-1, 8, BIG, SMALL}) {
@@ -1103,10 +1063,10 @@ public final class PromiseTest {
     }
 
     private static void promise24() {
-        CraneLimiter c = lifting();
-        tickAt(c, 5555);
-        tickAt(c, 5555);
-        tickAt(c, 5000);
+        CraneLimiter c = Cranes.lifting();
+        Cranes.tickAt(c, 5555);
+        Cranes.tickAt(c, 5555);
+        Cranes.tickAt(c, 5000);
         c.bypass(4);
         c.run(0, 4);
         int[] times = {4, 2, 2, 3};
@@ -1121,13 +1081,13 @@ public final class PromiseTest {
 
     /** Lifts 5000 kg once, with a utilization of (class * 125). */
     private static void lift(CraneLimiter c, int liftClass) {
-        level(c, liftClass == 0 ? 100000 : 40000 / liftClass);
+        Cranes.level(c, liftClass == 0 ? 100000 : 40000 / liftClass);
         c.run(1, 4);
         c.run(2, 4);
     }
 
     private static void promise25() {
-        CraneLimiter c = strong();
+        CraneLimiter c = Cranes.strong();
         c.attach(5000);
         for (int liftClass = 0; liftClass < 8; liftClass++) {
             lift(c, liftClass);
@@ -1143,7 +1103,7 @@ public final class PromiseTest {
     }
 
     private static void promise26() {
-        CraneLimiter c = strong();
+        CraneLimiter c = Cranes.strong();
         Check.due("no lift", c.spectrum(), CraneLimiter.NONE);
         c.attach(5000);
         c.run(1, 4);
@@ -1184,11 +1144,11 @@ public final class PromiseTest {
     private static void promise28() {
         CraneLimiter c = new CraneLimiter();
         Check.due("clearText of none", c.clearText(), 0);
-        text(c, "w1;x");
+        Cranes.text(c, "w1;x");
         Check.due("clearText", c.clearText(), 4);
         Check.due("clearText again", c.clearText(), 0);
         Check.due("nothing is left of it", c.runScript(), 0);
-        text(c, "w1;");
+        Cranes.text(c, "w1;");
         Check.due("the new text alone", c.runScript(), 1);
         notUndoable("clearText", x -> x.clearText());
     }
@@ -1196,30 +1156,30 @@ public final class PromiseTest {
     private static void promise29() {
         String[] orders = {"h+", "h-", "b+", "b-", "e+", "e-", "s+", "s-"};
         for (int motion = 0; motion < 8; motion++) {
-            CraneLimiter byScript = strong();
+            CraneLimiter byScript = Cranes.strong();
             byScript.run(1, 20);
-            CraneLimiter byRun = strong();
+            CraneLimiter byRun = Cranes.strong();
             byRun.run(1, 20);
-            text(byScript, orders[motion] + "12;");
-            text(byRun, orders[motion] + "12;");
+            Cranes.text(byScript, orders[motion] + "12;");
+            Cranes.text(byRun, orders[motion] + "12;");
             Check.due("script " + orders[motion], byScript.runScript(), 12);
             byRun.run(1 << motion, 12);
             Check.due("motion of " + orders[motion], byScript.digest(), byRun.digest());
         }
-        CraneLimiter waiting = strong();
-        CraneLimiter idle = strong();
+        CraneLimiter waiting = Cranes.strong();
+        CraneLimiter idle = Cranes.strong();
         waiting.setBoom(6000, 850, 0);
         idle.setBoom(6000, 850, 0);
-        text(waiting, "w7;");
-        text(idle, "w7;");
+        Cranes.text(waiting, "w7;");
+        Cranes.text(idle, "w7;");
         waiting.runScript();
         idle.run(0, 7);
         waiting.run(2, 1);
         idle.run(2, 1);
         Check.due("w is ticks without motions", waiting.digest(), idle.digest());
         Check.due("w blocks nothing", waiting.events(), 1);
-        CraneLimiter c = strong();
-        text(c, " h + 4 ;b-1;  w 99 ; e+01;s-9 ; ");
+        CraneLimiter c = Cranes.strong();
+        Cranes.text(c, " h + 4 ;b-1;  w 99 ; e+01;s-9 ; ");
         Check.due("a script with blanks", c.runScript(), 4 + 1 + 99 + 1 + 9);
         int[] boom = {1510, 595, 3600 - 9 * 15};
         for (int what = 0; what < 3; what++) {
@@ -1232,7 +1192,7 @@ public final class PromiseTest {
         Check.due("the time after undo", c.boom(10), 114);
         for (String none : new String[] {"", " ", "     "}) {
             CraneLimiter d = new CraneLimiter();
-            text(d, none);
+            Cranes.text(d, none);
             Check.due("a script without orders", d.runScript(), 0);
             Check.due("is undoable too", d.undo(), 0);
         }
@@ -1240,19 +1200,19 @@ public final class PromiseTest {
         for (int i = 0; i < 20; i++) {
             longest.append("w99;");
         }
-        text(c, longest.toString());
+        Cranes.text(c, longest.toString());
         Check.due("the longest script", c.runScript(), 20 * 99);
         StringBuilder shortest = new StringBuilder("  ");
         for (int i = 0; i < 26; i++) {
             shortest.append("w1;");
         }
-        text(c, shortest.toString());
+        Cranes.text(c, shortest.toString());
         Check.due("the most orders", c.runScript(), 26);
     }
 
     private static void fault(String text, int fault) {
         CraneLimiter c = new CraneLimiter();
-        text(c, text);
+        Cranes.text(c, text);
         long before = c.digest();
         Check.due("fault of \"" + text + "\"", c.runScript(), -10 - fault);
         Check.due("nothing is done", c.digest(), before);
@@ -1299,11 +1259,11 @@ public final class PromiseTest {
         fault("h,1;", 1);
         fault("\0", 0);
         CraneLimiter c = new CraneLimiter();
-        text(c, "h+");
+        Cranes.text(c, "h+");
         Check.due("a script that ends too early", c.runScript(), -12);
-        text(c, "w3;w4;");
+        Cranes.text(c, "w3;w4;");
         Check.due("and one without a fault behind it", c.runScript(), 7);
-        text(c, "w3;");
+        Cranes.text(c, "w3;");
         Check.due("and one with fewer orders", c.runScript(), 3);
     }
 
@@ -1323,11 +1283,11 @@ public final class PromiseTest {
     }
 
     private static void undoAll() {
-        CraneLimiter c = lifting();
+        CraneLimiter c = Cranes.lifting();
         c.addZone(0, 100, 9000, 9000);
         c.wind(120);
         c.setOutrigger(2, 1);
-        text(c, "h-4;s+1;w1;");
+        Cranes.text(c, "h-4;s+1;w1;");
         long before = c.digest();
         c.runScript();
         Check.due("the lift has ended", c.lifts(0), 1);
@@ -1341,7 +1301,7 @@ public final class PromiseTest {
     }
 
     private static void undoZonesStatesAndLog() {
-        CraneLimiter c = lifting();
+        CraneLimiter c = Cranes.lifting();
         c.addZone(0, 0, 599, 10000);
         c.addZone(0, 0, 590, 10000);
         long before = c.digest();
@@ -1356,7 +1316,7 @@ public final class PromiseTest {
         c.undo();
         c.setTare(200);
         Check.due("undo of a change of the state", c.digest(), before);
-        CraneLimiter d = strong();
+        CraneLimiter d = Cranes.strong();
         for (int i = 0; i < 32; i++) {
             d.run(2, 1);
             d.run(0, 1);
@@ -1364,7 +1324,7 @@ public final class PromiseTest {
         d.setBoom(1000, 0, 0);
         d.bypass(3);
         before = d.digest();
-        text(d, "b-1;w1;s+2;e-1;w1;b-2;w1;e-1;h-1;");
+        Cranes.text(d, "b-1;w1;s+2;e-1;w1;b-2;w1;e-1;h-1;");
         d.runScript();
         Check.due("the last one of them", d.event(29, 2), 1);
         Check.due("the last but one", d.event(28, 2), 5);
@@ -1374,52 +1334,10 @@ public final class PromiseTest {
         Check.due("undo of events in a full log", d.digest(), before);
     }
 
-    private static long hash(long h, int... values) {
-        long result = h;
-        for (int value : values) {
-            result = 31 * result + value;
-        }
-        return result;
-    }
-
-    /** The digest from the answers of the other calls, and from what no call answers. */
-    private static long digestOf(CraneLimiter c, int[] hidden, int[] outriggers, int wheels, int[] zones) {
-        long h = hash(19763, hidden[0], hidden[1]);
-        for (int what = 0; what <= 11; what++) {
-            h = hash(h, c.boom(what));
-        }
-        for (int what = 0; what <= 7; what++) {
-            h = hash(h, c.limiter(what));
-        }
-        h = hash(h, c.permitted(), hidden[2]);
-        h = hash(h, outriggers);
-        h = hash(h, wheels);
-        for (int table = 0; table < 4; table++) {
-            int sum = 0;
-            for (int place = 0; place < 24; place++) {
-                sum += c.capacity(table, place / 6, place % 6);
-            }
-            h = hash(h, sum);
-        }
-        h = hash(h, zones.length / 4);
-        h = hash(h, zones);
-        h = hash(h, c.events());
-        for (int i = 0; i < c.events(); i++) {
-            h = hash(h, c.event(i, 0), c.event(i, 1), c.event(i, 2));
-        }
-        for (int state = 0; state < 4; state++) {
-            h = hash(h, c.stateTime(state));
-        }
-        for (int liftClass = 0; liftClass < 8; liftClass++) {
-            h = hash(h, c.lifts(liftClass));
-        }
-        return h;
-    }
-
     private static void promise31() {
         CraneLimiter c = new CraneLimiter();
         Check.due("digest of a new object", c.digest(),
-                digestOf(c, new int[] {0, 0, 200}, new int[] {2, 2, 2, 2}, 0, new int[0]));
+                Cranes.digest(c, new int[] {0, 0, 200}, new int[] {2, 2, 2, 2}, 0, new int[0]));
         c.fillTable(0, 1000);
         c.fillTable(1, 20000);
         c.fillTable(2, 4100);
@@ -1431,13 +1349,13 @@ public final class PromiseTest {
         c.wind(110);
         c.setTare(321);
         c.attach(5000);
-        text(c, "h+4;h-4;h+9;s-2;");
+        Cranes.text(c, "h+4;h-4;h+9;s-2;");
         c.runScript();
         Check.due("a lift before the digest", c.lifts(1), 1);
         c.bypass(20);
         int[] zones = {10, 20, 30, 40, 3500, 60, 700, 1600};
         Check.due("digest", c.digest(),
-                digestOf(c, new int[] {4, 16, 321}, new int[] {2, 0, 2, 1}, 0, zones));
+                Cranes.digest(c, new int[] {4, 16, 321}, new int[] {2, 0, 2, 1}, 0, zones));
         c.undo();
         c.setOnWheels(true);
         c.undo();
@@ -1446,7 +1364,7 @@ public final class PromiseTest {
         c.type(1);
         c.setOnWheels(true);
         Check.due("digest on wheels", c.digest(),
-                digestOf(c, new int[] {3, 1, 321}, new int[] {2, 0, 2, 1}, 1, zones));
+                Cranes.digest(c, new int[] {3, 1, 321}, new int[] {2, 0, 2, 1}, 1, zones));
         notUndoable("digest", x -> x.digest());
     }
 }
