@@ -1,10 +1,24 @@
-/** The four examples of the document, call by call. */
+import java.io.IOException;
+import java.nio.file.Files;
+import java.nio.file.Path;
+import java.util.regex.Matcher;
+import java.util.regex.Pattern;
+
+/** The four examples of the document, call by call, and as they stand in its text. */
 public final class ExamplesTest {
-    public static void main(String[] args) {
+    private static final Path DOC = Path.of("../shared/DOC.md");
+    private static final Pattern CALL = Pattern.compile("(\\w+)\\(([-\\d, ]*)\\) = (throws )?([-\\w]+)");
+
+    public static void main(String[] args) throws IOException {
         aLoadOnTheHook();
         aWarningAndTheBypass();
         anOutriggerAndWind();
         aZoneAndExceptions();
+        if (Files.exists(DOC)) {
+            asTheyStand(Files.readString(DOC));
+        } else {
+            System.out.println(DOC + " is not there: its examples are not read from it");
+        }
         Check.finish("ExamplesTest");
     }
 
@@ -60,5 +74,23 @@ public final class ExamplesTest {
         Check.noIndex("4: event(0, 2)", c, () -> c.event(0, 2));
         Check.noArgument("4: run(3, 1)", c, () -> c.run(3, 1));
         Check.noArgument("4: setBoom(999, 0, 0)", c, () -> c.setBoom(999, 0, 0));
+    }
+
+    private static void asTheyStand(String doc) {
+        int start = Math.max(doc.indexOf("\nExamples:"), 0);
+        int end = Math.max(doc.indexOf("\nThe constants:", start), start);
+        String[] examples = doc.substring(start, end).split("\n(?=\\d\\. )");
+        Check.due("examples in the document", examples.length - 1, 4);
+        int calls = 0;
+        for (int i = 1; i < examples.length; i++) {
+            CraneLimiter crane = new CraneLimiter();
+            Matcher call = CALL.matcher(examples[i].replaceAll("\\s+", " "));
+            while (call.find()) {
+                calls++;
+                String got = Calls.answer(crane, call.group(1), call.group(2));
+                Check.holds("document, " + i + ": " + call.group() + ", answered " + got, got.equals(call.group(4)));
+            }
+        }
+        Check.due("calls in the document's examples", calls, 38);
     }
 }
